@@ -17,6 +17,7 @@ public final class DayTest {
         // The longest day: five that stay two slots each, all from slot 9 on.
         dayOf("b09,b09,b09,b09,b09;9", "5 2 20 4 -1", "0 0 0 0 0 0 0 0 0 4 4 3 3 2 2 1 1 0 0 0");
         peersInTurn();
+        askedFirst();
         nothingChanges();
         refused();
         Checks.end();
@@ -37,6 +38,18 @@ public final class DayTest {
 
     private static void peersInTurn() {
         Checks.same("peers in turn", Checks.all(Checks.of("t00,e02,b01,e01,p00;9"), 5), "0 5 2 4 6");
+    }
+
+    /** No other call has worked the day out before, and then it has changed since. */
+    private static void askedFirst() {
+        HermitHours x = Checks.of("p00,p00,p00;9");
+        Checks.due("waiting(0), asked first", x.waiting(0), 2);
+        x.come(2, 5);
+        Checks.due("waiting(0) after a change", x.waiting(0), 1);
+        x.patience(0);
+        Checks.due("day(4) after a change", x.day(4), 0);
+        x.patience(1);
+        Checks.due("waiting(19) after a change", x.waiting(19), 2);
     }
 
     private static void nothingChanges() {

@@ -52,6 +52,9 @@ public final class PilgrimTest {
         seenOfSecond(x, 2, 1, 24, 3);
         seenOfSecond(x, 3, 2, 8, 0);
         seenOfSecond(x, 3, 1, 0, Checks.NONE);
+        // Nobody is received: at slot 4 and later five may wait, and as many comings are left either way.
+        x = Checks.of("p00,p00,p00,p00,p05;0");
+        Checks.due("look where five wait", x.pilgrim(4, 9), 4);
         x = Checks.of("p00,p00;9");
         Checks.due("look where one slot tells", x.pilgrim(0, 9), 0);
         x.see(0, 1);

@@ -68,8 +68,8 @@ public final class WholeTest {
         x.see(4, 2);
         x.image();
         x.forget();
-        x.see(4, 1);
-        Checks.due("when, another seen", x.pilgrim(1, 8), 992);
+        x.see(7, 1);
+        Checks.due("when, another seen", x.pilgrim(1, 8), 768);
         x.restore();
         Checks.due("when, as kept", x.pilgrim(1, 8), 31);
     }
