@@ -29,7 +29,7 @@ public final class BestTest {
         orderOf("s00,p10,p20;4", "2 0 1 2 -1 -1");
         // The one of trouble 5 would use up the saying 0.
         orderOf("p50,p00,p00;9", "3 1 0 2 -1 -1");
-        // Only the last of all orders but those that end in 0 1 or 1 0 helps three.
+        // Three are helped only if both sinners are last.
         orderOf("s00,s10,p20,p30,p40;3", "3 2 3 4 0 1");
         // Nobody can be helped, yet there is an order.
         orderOf("p00,p00,p00,p00;0", "0 0 1 2 3 -1");
