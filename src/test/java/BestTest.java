@@ -1,5 +1,3 @@
-import java.util.StringJoiner;
-
 /** Promises 13 and 14: order, fit. */
 public final class BestTest {
     public static void main(String[] args) {
@@ -11,12 +9,7 @@ public final class BestTest {
 
     private static void orderOf(String cave, String want) {
         HermitHours x = Checks.of(cave);
-        StringJoiner got = new StringJoiner(" ");
-        got.add(Integer.toString(x.order(0)));
-        for (int what = 10; what <= 14; what++) {
-            got.add(Integer.toString(x.order(what)));
-        }
-        Checks.same("the order of " + cave, got.toString(), want);
+        Checks.same("the order of " + cave, x.order(0) + " " + Checks.row(10, 14, x::order), want);
         Checks.due("changes after order()", x.count(4), 0);
     }
 

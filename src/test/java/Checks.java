@@ -1,4 +1,5 @@
 import java.util.StringJoiner;
+import java.util.function.IntUnaryOperator;
 
 /** What every test needs: calls are compared with what is due, and the test ends with exit code 1 if one differs. */
 final class Checks {
@@ -43,11 +44,25 @@ final class Checks {
 
     /** What pilgrim() tells of one thing for all, with spaces between. */
     static String all(HermitHours x, int what) {
-        StringJoiner all = new StringJoiner(" ");
-        for (int i = 0; i < x.count(0); i++) {
-            all.add(Integer.toString(x.pilgrim(i, what)));
+        return row(0, x.count(0) - 1, pilgrim -> x.pilgrim(pilgrim, what));
+    }
+
+    /** What a call answers for each number from the first to the last, with spaces between. */
+    static String row(int first, int last, IntUnaryOperator call) {
+        StringJoiner row = new StringJoiner(" ");
+        for (int number = first; number <= last; number++) {
+            row.add(Integer.toString(call.applyAsInt(number)));
         }
-        return all.toString();
+        return row.toString();
+    }
+
+    /** Each of the numbers, and the least and the greatest int, is refused with the same answer. */
+    static void refused(String call, int answer, IntUnaryOperator made, int... numbers) {
+        for (int number : numbers) {
+            due(call + " of " + number, made.applyAsInt(number), answer);
+        }
+        due(call + " of the least int", made.applyAsInt(Integer.MIN_VALUE), answer);
+        due(call + " of the greatest int", made.applyAsInt(Integer.MAX_VALUE), answer);
     }
 
     static void same(String what, String got, String want) {

@@ -1,5 +1,3 @@
-import java.util.StringJoiner;
-
 /** Promises 11 and 12: day, waiting. */
 public final class DayTest {
     public static void main(String[] args) {
@@ -25,15 +23,8 @@ public final class DayTest {
 
     private static void dayOf(String cave, String day, String waiting) {
         HermitHours x = Checks.of(cave);
-        StringJoiner told = new StringJoiner(" "), waited = new StringJoiner(" ");
-        for (int what = 0; what <= 4; what++) {
-            told.add(Integer.toString(x.day(what)));
-        }
-        for (int slot = 0; slot < 20; slot++) {
-            waited.add(Integer.toString(x.waiting(slot)));
-        }
-        Checks.same("the day of " + cave, told.toString(), day);
-        Checks.same("those waiting of " + cave, waited.toString(), waiting);
+        Checks.same("the day of " + cave, Checks.row(0, 4, x::day), day);
+        Checks.same("those waiting of " + cave, Checks.row(0, 19, x::waiting), waiting);
     }
 
     private static void peersInTurn() {

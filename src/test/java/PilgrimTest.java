@@ -80,11 +80,8 @@ public final class PilgrimTest {
         HermitHours x = Checks.of("p00,t10,e20,s31,b42;9");
         String[] want = {"0 -1 -1 -1 -1", "1 1 -1 -1 -1", "2 -1 2 -1 -1", "3 -1 -1 3 -1", "4 -1 4 -1 4"};
         for (int i = 0; i < 5; i++) {
-            StringBuilder got = new StringBuilder();
-            for (int kind = 0; kind < 5; kind++) {
-                got.append(kind == 0 ? "" : " ").append(x.as(i, kind));
-            }
-            Checks.same("as() of " + i, got.toString(), want[i]);
+            int pilgrim = i;
+            Checks.same("as() of " + i, Checks.row(0, 4, kind -> x.as(pilgrim, kind)), want[i]);
         }
         Checks.due("as(5, 0)", x.as(5, 0), Checks.UNKNOWN);
         Checks.due("as(-1, 9)", x.as(-1, 9), Checks.UNKNOWN);
