@@ -7,21 +7,30 @@ import java.nio.file.Files;
 import java.nio.file.Path;
 import java.util.Set;
 import java.util.TreeSet;
+import java.util.regex.Matcher;
 import java.util.regex.Pattern;
 
 /** The rules of LANGUAGE.md that can be read off the class and its text, and the room that calls take. */
 public final class LanguageTest {
+    private static final Path SOURCE = Path.of("src/main/java/HermitHours.java");
+    private static final Pattern METHOD = Pattern.compile("( {4}| {8})(?!(if|for|while|switch)\\b)[a-z][^=;]*\\) \\{");
     private static final Set<String> FACE = Set.of("letter", "blank", "fault", "cave", "pilgrim", "as", "come",
             "trouble", "patience", "day", "waiting", "order", "fit", "see", "forget", "seasons", "image", "restore",
             "count", "digest");
     private static final Set<String> CONSTANTS = Set.of("NONE", "UNKNOWN", "OUTSIDE", "STATE", "FULL");
+    private static final Set<String> LIBRARY =
+            Set.of("System.arraycopy", "Math.min", "Math.max", "Integer.bitCount");
+    private static final Set<Class<?>> CONSTANT_TYPES = Set.of(int.class, long.class, boolean.class, char.class,
+            String.class, int[].class, long[].class, char[].class, byte[].class);
     private static final String[] RULED_OUT = {"throw", "throws", "try", "catch", "synchronized", "assert", "import",
         "package", "->", "::", "Object", "protected", "static\\s*\\{"};
 
     public static void main(String[] args) throws IOException {
         face();
         classesInside();
+        sizes();
         text();
+        library();
         room();
         Checks.end();
     }
@@ -59,9 +68,59 @@ public final class LanguageTest {
         }
     }
 
+    /** Rules 5 and 11: what static fields may be, how many fields and parameters there are, how long methods are. */
+    private static void sizes() throws IOException {
+        sizesOf(HermitHours.class);
+        for (Class<?> one : HermitHours.class.getDeclaredClasses()) {
+            sizesOf(one);
+        }
+        String begun = null;
+        int lines = 0;
+        for (String line : Files.readAllLines(SOURCE)) {
+            Matcher head = METHOD.matcher(line);
+            if (head.matches()) {
+                begun = head.group(1);
+                lines = 0;
+            }
+            lines++;
+            if (begun != null && line.equals(begun + "}")) {
+                Checks.holds("a method of " + lines + " lines is short", lines <= 60);
+                begun = null;
+            }
+        }
+    }
+
+    private static void sizesOf(Class<?> one) {
+        int fields = 0;
+        for (Field field : one.getDeclaredFields()) {
+            if (!Modifier.isStatic(field.getModifiers())) {
+                fields++;
+            } else {
+                Checks.holds(field + " is a constant", Modifier.isFinal(field.getModifiers())
+                        && CONSTANT_TYPES.contains(field.getType()));
+            }
+        }
+        Checks.holds(one + " has at most twenty fields", fields <= 20);
+        for (Method method : one.getDeclaredMethods()) {
+            Checks.holds(method + " has at most seven parameters", method.getParameterCount() <= 7);
+        }
+    }
+
+    /** Rule 4: of the library, what the class uses. */
+    private static void library() throws IOException {
+        Matcher call = Pattern.compile("\\b[A-Z]\\w*\\.\\w+").matcher(code());
+        while (call.find()) {
+            Checks.holds(call.group() + " is of the library that may be used", LIBRARY.contains(call.group()));
+        }
+    }
+
+    private static String code() throws IOException {
+        return Files.readString(SOURCE).replaceAll("(?s)/\\*.*?\\*/", "").replaceAll("//.*", "");
+    }
+
     private static void text() throws IOException {
-        String text = Files.readString(Path.of("src/main/java/HermitHours.java"));
-        String code = text.replaceAll("(?s)/\\*.*?\\*/", "").replaceAll("//.*", "");
+        String text = Files.readString(SOURCE);
+        String code = code();
         for (String word : RULED_OUT) {
             boolean isName = Character.isLetter(word.charAt(0));
             Pattern pattern = Pattern.compile(isName ? "\\b" + word + (word.endsWith("{") ? "" : "\\b") : word);
